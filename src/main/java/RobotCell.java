@@ -43,6 +43,11 @@ public final class RobotCell {
   private static final int CONFLICT = 3;
   private static final int UNSAFE = 4;
 
+  // The kinds of commands.
+  private static final int GIVE = 0;
+  private static final int TICKS = 1;
+  private static final int INTERLOCK = 2;
+
   // What forbids a change, one number for each exception.
   private static final int FINE = 0;
   private static final int BAD_INDEX = 1;
@@ -324,13 +329,13 @@ public final class RobotCell {
   /** Carries a command out on the trial, so that none has an effect if a later one cannot be. */
   private boolean carryOut(Command c) {
     switch (c.kind) {
-      case 'j':
+      case GIVE:
         if (trial.giveFault(c.arm, c.path, c.work, c.weight, c.source, c.target) != FINE) {
           return false;
         }
         trial.addJob(c.arm, c.path, c.work, c.weight, c.source, c.target);
         return true;
-      case 't':
+      case TICKS:
         if (!isWithin(c.ticks, 1, MOST_TICKS)) {
           return false;
         }
@@ -472,11 +477,11 @@ public final class RobotCell {
       return rest % 10 - 1;
     }
 
-    /** The set of the zones of the path behind a place; behind -1, all of them. */
+    /** The set of the zones of the path behind a place. */
     int zonesBehind(int place) {
       int rest = path;
       int set = 0;
-      for (int i = length - 1; i > place && i >= 0; i--) {
+      for (int i = length - 1; i > place && i > 0; i--) {
         set |= 1 << (rest % 10 - 1);
         rest /= 10;
       }
@@ -1373,7 +1378,7 @@ public final class RobotCell {
 
   /** A command of a text. */
   private static final class Command {
-    char kind;
+    int kind;
     int arm;
     int path;
     int work;
@@ -1448,15 +1453,15 @@ public final class RobotCell {
 
     private boolean readCommand(Command command) {
       if (take('j')) {
-        command.kind = 'j';
+        command.kind = GIVE;
         return readJob(command);
       }
       if (take('t')) {
-        command.kind = 't';
+        command.kind = TICKS;
         return readTicks(command);
       }
       if (take('i')) {
-        command.kind = 'i';
+        command.kind = INTERLOCK;
         return readInterlock(command);
       }
       return false;

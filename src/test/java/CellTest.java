@@ -97,6 +97,11 @@ public final class CellTest {
     CHECK.same("then", x.setReach(2, 129), 0);
     CHECK.same("reach", x.arm(2, 0), 129);
     CHECK.same("in whose reach", x.zone(1, 2), 3);
+    x.setReach(0, 253);
+    CHECK.same("in the reach of arm 1 alone", x.zone(1, 2), 2);
+    x.setReach(1, 253);
+    CHECK.same("in nobody's reach", x.zone(1, 2), 0);
+    x.setReach(0, 255);
     CHECK.same("in whose reach again", x.zone(7, 2), 7);
     CHECK.same("all", x.setReach(2, 255), 129);
     CHECK.throwing("no arm", INDEX, () -> x.setReach(3, 256));

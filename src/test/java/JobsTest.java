@@ -42,6 +42,8 @@ public final class JobsTest {
     CHECK.throwing("not in the reach", REACH, () -> x.give(0, 1213, 1, 0, -1, -1));
     CHECK.throwing("first one not in the reach", REACH, () -> x.give(0, 312, 1, 0, -1, -1));
     CHECK.throwing("the argument first", ARGUMENT, () -> x.give(0, 3, 1, 10, -1, -1));
+    CHECK.throwing("the first of five", REACH, () -> x.give(0, 31212, 1, 0, -1, -1));
+    CHECK.throwing("the last of five", REACH, () -> x.give(0, 12123, 1, 0, -1, -1));
     CHECK.same("another arm's reach", x.give(1, 3, 1, 0, -1, -1), 3);
     CHECK.same("in the reach", x.give(0, 1248, 1, 0, -1, -1), 4);
     CHECK.same("given then", x.account(1), 5);

@@ -20,6 +20,9 @@ public final class TimeTest {
     safetyOfThree();
     safetyOfLaterVisits();
     safetyWhileMoving();
+    safetyOfPassedZones();
+    safetyOfAChain();
+    safetyOfTheHeldZone();
     wouldBe();
     wouldBeWhileMoving();
     endsAfter();
@@ -296,6 +299,52 @@ public final class TimeTest {
     x.setReach(2, 255);
     x.give(2, 41, 1, 0, -1, -1);
     CHECK.same("it comes to 0 no more", x.wouldBe(2), 0);
+  }
+
+  private static void safetyOfPassedZones() {
+    RobotCell x = new RobotCell();
+    x.give(0, 1234, 1, 0, -1, -1);
+    x.tick(7);
+    CHECK.same("arm 0 works in 3", x.arm(0, 7), 8);
+    x.give(1, 24, 1, 0, -1, -1);
+    CHECK.same("arm 0 came through 1 and comes to it no more", x.wouldBe(1), 0);
+    x.give(2, 14, 1, 0, -1, -1);
+    CHECK.same("nor to 0", x.wouldBe(2), 0);
+  }
+
+  /** The highest arm finishes first, then the middle one, then the lowest. */
+  private static void safetyOfAChain() {
+    RobotCell x = new RobotCell();
+    x.give(2, 34, 9, 0, -1, -1);
+    x.give(1, 23, 9, 0, -1, -1);
+    x.tick(1);
+    x.give(0, 12, 1, 0, -1, -1);
+    CHECK.same("all can finish", x.wouldBe(0), 0);
+    x.tick(1);
+    CHECK.same("it started", x.arm(0, 1), 1);
+    CHECK.same("all could finish", x.isSafe(), true);
+    RobotCell y = new RobotCell();
+    y.give(0, 12, 9, 0, -1, -1);
+    y.give(1, 23, 9, 0, -1, -1);
+    y.tick(1);
+    y.give(2, 34, 1, 0, -1, -1);
+    CHECK.same("the other way round", y.wouldBe(2), 0);
+  }
+
+  /** The arm that requests goes on to hold what it holds. */
+  private static void safetyOfTheHeldZone() {
+    RobotCell x = new RobotCell();
+    x.give(0, 123, 2, 0, -1, -1);
+    x.give(1, 67, 9, 0, -1, -1);
+    x.tick(1);
+    x.setInterlock(2, 5, true);
+    CHECK.same("arm 1 finishes first", x.wouldBe(0), 0);
+    x.setInterlock(6, 0, true);
+    CHECK.same("arm 1 waits for the zone that arm 0 holds", x.wouldBe(0), 4);
+    x.tick(2);
+    CHECK.same("arm 0 waits", x.arm(0, 1), 3);
+    CHECK.same("reason", x.reason(0, false), 4);
+    CHECK.same("detail", x.reason(0, true), 0);
   }
 
   private static void wouldBe() {

@@ -5,6 +5,7 @@ public final class UndoTest {
 
   public static void main(String[] args) {
     undoOfEachChange();
+    undoOfRefusalsAndGoneParts();
     undoOfUnchangingChanges();
     failuresAreNoChanges();
     sixChanges();
@@ -55,6 +56,36 @@ public final class UndoTest {
     CHECK.sameText("state before the ticks", View.of(x), before[0]);
     x.tick(1);
     CHECK.same("a change after undo", x.undo(), 0);
+  }
+
+  private static void undoOfRefusalsAndGoneParts() {
+    RobotCell x = new RobotCell();
+    x.supply(2);
+    x.give(1, 1, 3, 0, 2, -1);
+    x.tick(1);
+    x.give(0, 1, 1, 0, 2, -1);
+    x.tick(2);
+    CHECK.same("no part", x.reason(0, false), 1);
+    CHECK.same("the source", x.reason(0, true), 2);
+    String before = View.of(x);
+    x.give(1, 5, 9, 0, -1, -1);
+    x.tick(2);
+    CHECK.same("gone", x.account(6), 1);
+    x.setInterlock(0, 4, true);
+    x.supply(2);
+    x.tick(1);
+    CHECK.same("conflict", x.reason(0, false), 3);
+    CHECK.same("the arm", x.reason(0, true), 1);
+    for (int i = 0; i < 5; i++) {
+      x.undo();
+    }
+    CHECK.sameText("state before", View.of(x), before);
+    CHECK.same("nothing gone", x.account(6), 0);
+    x.save();
+    x.tick(1);
+    CHECK.same("gone again", x.account(6), 1);
+    x.restore();
+    CHECK.sameText("restored state", View.of(x), before);
   }
 
   private static void undoOfUnchangingChanges() {
