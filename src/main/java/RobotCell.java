@@ -467,7 +467,7 @@ public final class RobotCell {
     }
 
     int zoneAt(int place) {
-      if (!hasPlace(place)) {
+      if (place < 0 || place >= length) {
         return NONE;
       }
       int rest = path;
@@ -562,8 +562,9 @@ public final class RobotCell {
     }
 
     int takeFirst() {
-      int first = partAt(0);
-      if (count > 0) {
+      int first = NONE;
+      if (count > 0 && parts.length > 0) {
+        first = parts[0];
         for (int i = 1; i < count && i < parts.length; i++) {
           parts[i - 1] = parts[i];
         }
@@ -644,8 +645,9 @@ public final class RobotCell {
     }
 
     int takeFirstOfRow() {
-      int first = rowAt(0);
-      if (rowLength > 0) {
+      int first = NONE;
+      if (rowLength > 0 && row.length > 0) {
+        first = row[0];
         for (int i = 1; i < rowLength && i < row.length; i++) {
           row[i - 1] = row[i];
         }
@@ -950,15 +952,7 @@ public final class RobotCell {
 
     // ---- what an arm does
 
-    void grant(Arm arm) {
-      if (arm.state == IDLE) {
-        startJob(arm);
-      } else {
-        startMove(arm);
-      }
-    }
-
-    private void startJob(Arm arm) {
+    void startJob(Arm arm) {
       int number = arm.takeFirstOfRow();
       Job job = jobAt(number);
       int zone = job.zoneAt(0);
@@ -975,7 +969,7 @@ public final class RobotCell {
       log.add(time, arm.number, START, zone);
     }
 
-    private void startMove(Arm arm) {
+    void startMove(Arm arm) {
       Job job = jobAt(arm.job);
       int zone = job.zoneAt(arm.place + 1);
       int neighbors = 1 << (zone + 1) | 1 << zone >> 1;
@@ -1325,10 +1319,12 @@ public final class RobotCell {
         cell.endMove(arm);
       } else if (cell.hasRequest(arm)) {
         int reason = judge.findReason(cell, arm);
-        if (reason == GRANTED) {
-          cell.grant(arm);
-        } else {
+        if (reason != GRANTED) {
           arm.refuse(reason, judge.detail, patience + 1);
+        } else if (arm.state == IDLE) {
+          cell.startJob(arm);
+        } else {
+          cell.startMove(arm);
         }
       } else if (arm.state != IDLE) {
         cell.endJob(arm);
