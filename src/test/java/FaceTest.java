@@ -37,6 +37,9 @@ public final class FaceTest {
             FACE.contains(method.getName()), false);
       }
     }
-    CHECK.end();
+    System.out.println(CHECK.asked() + " answers, " + CHECK.wrong() + " wrong");
+    if (CHECK.wrong() > 0) {
+      System.exit(1);
+    }
   }
 }

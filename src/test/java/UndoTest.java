@@ -1,198 +1,328 @@
+import java.util.NoSuchElementException;
+
 /** Promises 26 to 28: undo, save and restore. */
 public final class UndoTest {
-  private static final Check CHECK = new Check();
   private static final Class<IllegalStateException> STATE = IllegalStateException.class;
 
   public static void main(String[] args) {
-    undoOfEachChange();
-    undoOfRefusalsAndGoneParts();
-    undoOfUnchangingChanges();
-    failuresAreNoChanges();
-    sixChanges();
-    inputBufferStays();
-    saveAndRestore();
-    savedStays();
-    CHECK.end();
+    Sentences.run(UndoTest.class);
   }
 
-  private static RobotCell busyCell() {
-    RobotCell x = new RobotCell();
-    x.setInterlock(0, 5, true);
+  private static void nothing(RobotCell x) {}
+
+  /** Arms that work, move and wait, parts, promises and refusals, by four changes. */
+  private static void busyCell(RobotCell x) {
+    Calls.perform(x, "i05;j0:0,1,2/2w9<0>2;j1:2,1,0/1w4>1;j2:5/3w0>2;j2:6,7/1w0;j0:3/1w0");
     x.setCapacity(2, 3);
     x.supply(0);
-    x.give(0, 123, 2, 9, 0, 2);
-    x.give(1, 321, 1, 4, -1, 1);
-    x.give(2, 6, 3, 0, -1, 2);
-    x.give(2, 78, 1, 0, -1, -1);
     x.tick(7);
-    return x;
   }
 
-  private static void undoOfEachChange() {
-    RobotCell x = busyCell();
-    String[] before = new String[9];
-    before[0] = View.of(x);
-    x.setInterlock(6, 7, true);
-    before[1] = View.of(x);
-    x.setReach(1, 3);
-    before[2] = View.of(x);
-    x.setCapacity(0, 4);
-    before[3] = View.of(x);
-    x.supply(0);
-    before[4] = View.of(x);
-    x.give(0, 1, 1, 0, -1, -1);
-    before[5] = View.of(x);
-    x.withdraw(2);
-    before[6] = View.of(x);
-    for (int i = 5; i >= 0; i--) {
-      CHECK.same("changes left", x.undo(), i);
-      CHECK.sameText("state before change " + i, View.of(x), before[i]);
-    }
-    CHECK.throwing("none is left", STATE, () -> x.undo());
-    x.tick(30);
-    Check.perform(x, "i12;j0:1/2w3;t9");
-    CHECK.same("the text", x.undo(), 1);
-    CHECK.same("the ticks", x.undo(), 0);
-    CHECK.sameText("state before the ticks", View.of(x), before[0]);
-    x.tick(1);
-    CHECK.same("a change after undo", x.undo(), 0);
-  }
-
-  private static void undoOfRefusalsAndGoneParts() {
-    RobotCell x = new RobotCell();
-    x.supply(2);
-    x.give(1, 1, 3, 0, 2, -1);
-    x.tick(1);
-    x.give(0, 1, 1, 0, 2, -1);
-    x.tick(2);
-    CHECK.same("no part", x.reason(0, false), 1);
-    CHECK.same("the source", x.reason(0, true), 2);
-    String before = View.of(x);
-    x.give(1, 5, 9, 0, -1, -1);
-    x.tick(2);
-    CHECK.same("gone", x.account(6), 1);
-    x.setInterlock(0, 4, true);
-    x.supply(2);
-    x.tick(1);
-    CHECK.same("conflict", x.reason(0, false), 3);
-    CHECK.same("the arm", x.reason(0, true), 1);
-    for (int i = 0; i < 5; i++) {
-      x.undo();
-    }
-    CHECK.sameText("state before", View.of(x), before);
-    CHECK.same("nothing gone", x.account(6), 0);
-    x.save();
-    x.tick(1);
-    CHECK.same("gone again", x.account(6), 1);
-    x.restore();
-    CHECK.sameText("restored state", View.of(x), before);
-  }
-
-  private static void undoOfUnchangingChanges() {
-    RobotCell x = new RobotCell();
-    x.setInterlock(0, 1, false);
-    x.setReach(0, 255);
-    x.setCapacity(0, 2);
-    Check.perform(x, "i01;i01");
-    CHECK.same("all of them count", x.undo(), 3);
-  }
-
-  private static void failuresAreNoChanges() {
-    RobotCell x = new RobotCell();
-    for (int i = 1; i <= 6; i++) {
-      x.setReach(0, i);
-    }
-    CHECK.throwing("zone", IndexOutOfBoundsException.class, () -> x.setInterlock(0, 8, true));
-    CHECK.throwing("reach", IllegalArgumentException.class, () -> x.setReach(0, 256));
-    CHECK.throwing("capacity", IllegalArgumentException.class, () -> x.setCapacity(0, 5));
-    CHECK.throwing("supply", IndexOutOfBoundsException.class, () -> x.supply(3));
-    CHECK.throwing("give", UnsupportedOperationException.class, () -> x.give(0, 1, 1, 0, -1, -1));
-    CHECK.throwing("withdraw", java.util.NoSuchElementException.class, () -> x.withdraw(0));
-    CHECK.throwing("tick", IllegalArgumentException.class, () -> x.tick(51));
-    CHECK.throwing("perform", UnsupportedOperationException.class, () -> Check.perform(x, "t1;t0"));
-    CHECK.same("error", Check.perform(x, "t1;"), -103);
-    CHECK.throwing("restore", STATE, () -> x.restore());
-    x.save();
-    x.isSafe();
-    x.idleAfter();
-    x.feed('t');
-    for (int i = 5; i >= 0; i--) {
-      CHECK.same("changes left", x.undo(), i);
-      CHECK.same("reach", x.arm(0, 0), i == 0 ? 255 : i);
+  private static void sixChanges(RobotCell x) {
+    for (int zones = 1; zones <= 6; zones++) {
+      x.setReach(0, zones);
     }
   }
 
-  private static void sixChanges() {
+  private static void undoAll(RobotCell x) {
+    for (int i = 0; i < 6; i++) {
+      try {
+        x.undo();
+      } catch (IllegalStateException e) {
+        return;
+      }
+    }
+  }
+
+  // ---- promise 26: undo
+
+  @Says(at = "Promise 26: undo",
+      text = "Takes back the latest change that was not taken back: a successful call of setInterlock, setReach, setCapacity,"
+          + " supply, give, withdraw or tick, or one of perform that carries commands out, also if everything stayed the"
+          + " same.")
+  static void eachChange(Check check) {
+    Calls[] changes = {
+      x -> x.setInterlock(6, 7, true),
+      x -> x.setInterlock(0, 5, false),
+      x -> x.setReach(1, 3),
+      x -> x.setCapacity(0, 4),
+      x -> x.supply(0),
+      x -> x.give(0, 1, 1, 0, -1, -1),
+      x -> x.withdraw(2),
+      x -> x.tick(1),
+      x -> x.tick(50),
+      x -> x.setInterlock(6, 7, false),
+      x -> x.setInterlock(0, 5, true),
+      x -> x.setReach(1, 255),
+      x -> x.setCapacity(0, 2),
+    };
+    for (int i = 0; i < changes.length; i++) {
+      Calls change = changes[i];
+      check.unchanged("change " + i + " and undo", UndoTest::busyCell, x -> {
+        change.on(x);
+        x.undo();
+      });
+    }
+    for (String text : new String[] {"i67;j0:0/1w0;t9", "i67;i67", "t1"}) {
+      RobotCell x = new RobotCell();
+      busyCell(x);
+      Calls.perform(x, text);
+      check.same("changes behind a text", x.undo(), 4);
+      RobotCell y = new RobotCell();
+      busyCell(y);
+      check.sameText("a text and undo", View.whole(x), View.whole(y));
+    }
+    RobotCell z = new RobotCell();
+    z.tick(1);
+    z.tick(2);
+    z.undo();
+    z.tick(4);
+    check.same("time", z.account(0), 5);
+    z.undo();
+    check.same("the latest one that was not taken back", z.account(0), 1);
+    z.undo();
+    check.same("the one before", z.account(0), 0);
+  }
+
+  @Says(at = "Promise 26: undo",
+      text = "a successful call of setInterlock, setReach, setCapacity, supply, give, withdraw or tick, or one of perform"
+          + " that carries commands out")
+  static void otherCallsAreNoChanges(Check check) {
+    Calls[] others = {
+      x -> x.setInterlock(0, 8, true), x -> x.setReach(0, 256), x -> x.setCapacity(0, 5), x -> x.supply(3),
+      x -> x.give(0, 11, 1, 0, -1, -1), x -> x.withdraw(1), x -> x.tick(51), x -> Calls.perform(x, "t1;t0"),
+      x -> Calls.perform(x, "t1;"), x -> x.perform(), x -> x.feed('t'), x -> x.save(), x -> x.isSafe(),
+      x -> x.idleAfter(), x -> x.zone(0, 0), x -> x.part(0, 0), x -> x.wouldBe(0), x -> x.endsAfter(0),
+    };
+    for (int i = 0; i < others.length; i++) {
+      RobotCell x = new RobotCell();
+      sixChanges(x);
+      try {
+        others[i].on(x);
+      } catch (IndexOutOfBoundsException | IllegalArgumentException | IllegalStateException
+          | UnsupportedOperationException | NoSuchElementException e) {
+        check.same("changes stay when a call throws", x.arm(0, 0), 6);
+      }
+      check.same("changes left behind call " + i, x.undo(), 5);
+      check.same("reach behind call " + i, x.arm(0, 0), 5);
+      undoAll(x);
+      check.same("reach before all changes, call " + i, x.arm(0, 0), 255);
+    }
+  }
+
+  @Says(at = "Promise 26: undo", text = "At most 6 changes can be taken back.")
+  static void sixChangesBack(Check check) {
+    for (int made = 1; made <= 20; made++) {
+      RobotCell x = new RobotCell();
+      for (int i = 0; i < made; i++) {
+        x.tick(1);
+      }
+      int kept = made < 6 ? made : 6;
+      for (int left = kept - 1; left >= 0; left--) {
+        check.same("changes left of " + made, x.undo(), left);
+        check.same("time, with " + left + " left of " + made, x.account(0), made - kept + left);
+      }
+    }
+  }
+
+  @Says(at = "Description, Details", text = "At most 6 changes are kept; older ones are gone for good.")
+  static void olderChanges(Check check) {
+    check.refused("a seventh one", STATE, x -> {
+      sixChanges(x);
+      undoAll(x);
+    }, x -> x.undo());
     RobotCell x = new RobotCell();
-    for (int i = 1; i <= 15; i++) {
+    for (int i = 0; i < 8; i++) {
       x.tick(1);
     }
-    for (int i = 5; i >= 0; i--) {
-      CHECK.same("changes left", x.undo(), i);
-      CHECK.same("time", x.account(0), 9 + i);
+    undoAll(x);
+    check.same("time before the six", x.account(0), 2);
+    x.tick(10);
+    check.same("those that are gone do not come back", x.undo(), 0);
+    check.same("time then", x.account(0), 2);
+    for (int i = 0; i < 4; i++) {
+      x.tick(1);
     }
-    CHECK.throwing("older ones are gone", STATE, () -> x.undo());
-    x.tick(10);
-    x.tick(10);
-    CHECK.same("changes anew", x.undo(), 1);
-    CHECK.same("time anew", x.account(0), 19);
+    x.undo();
+    x.undo();
+    for (int i = 0; i < 5; i++) {
+      x.tick(10);
+    }
+    check.same("seven changes, of which six are kept", x.undo(), 5);
+    undoAll(x);
+    check.same("time before the latest six", x.account(0), 3);
   }
 
-  private static void inputBufferStays() {
+  @Says(at = "Promise 26: undo", text = "The input buffer stays; all else is as it was before the change.")
+  static void inputBufferStays(Check check) {
     RobotCell x = new RobotCell();
     x.feed('t');
     x.tick(5);
     x.feed('1');
     x.undo();
-    CHECK.same("letters after undo", x.feed('2'), 3);
-    CHECK.same("the text after undo", x.perform(), 1);
-    CHECK.same("time", x.account(0), 12);
+    check.same("letters", x.feed('2'), 3);
+    check.same("the text", x.perform(), 1);
+    check.same("time", x.account(0), 12);
     x.undo();
-    CHECK.same("a performed text does not come back", x.feed('t'), 1);
-    x.save();
-    x.feed('3');
-    x.restore();
-    CHECK.same("the text after restore", x.perform(), 1);
-    CHECK.same("time then", x.account(0), 3);
+    check.same("a text that was carried out does not come back", x.feed('t'), 1);
+    RobotCell y = new RobotCell();
+    busyCell(y);
+    String[] before = new String[6];
+    Calls[] changes = {z -> z.tick(3), z -> z.supply(1), z -> z.tick(9), z -> z.setInterlock(1, 3, true),
+        z -> z.give(2, 81, 9, 9, 1, 1), z -> z.tick(50)};
+    for (int i = 0; i < 6; i++) {
+      before[i] = View.of(y);
+      changes[i].on(y);
+    }
+    for (int i = 5; i >= 0; i--) {
+      y.undo();
+      check.sameText("before change " + i, View.of(y), before[i]);
+    }
   }
 
-  private static void saveAndRestore() {
-    RobotCell x = busyCell();
-    CHECK.throwing("nothing was saved", STATE, () -> x.restore());
-    String before = View.of(x);
-    CHECK.same("save", x.save(), 7);
-    CHECK.sameText("save changes nothing", View.of(x), before);
-    CHECK.same("and is no change", x.undo(), 5);
-    CHECK.same("time after undo", x.account(0), 0);
-    CHECK.same("restore", x.restore(), 7);
-    CHECK.sameText("restored", View.of(x), before);
-    CHECK.throwing("no change can be taken back", STATE, () -> x.undo());
-    x.tick(20);
-    CHECK.same("a change after restore", x.undo(), 0);
-    CHECK.sameText("taken back", View.of(x), before);
+  @Says(at = "Promise 26: undo", text = "all else is as it was before the change")
+  static void reasonsAndGoneParts(Check check) {
+    Calls refusedForAPart = x -> {
+      x.supply(2);
+      Calls.perform(x, "j1:0/3w0<2;t1;j0:0/1w0<2;t2");
+    };
+    RobotCell x = new RobotCell();
+    refusedForAPart.on(x);
+    check.same("reason", x.reason(0, false), 1);
+    check.same("detail", x.reason(0, true), 2);
+    x.tick(1);
+    check.same("a part is gone", x.account(6), 1);
+    check.unchanged("a part that went and another reason", refusedForAPart, y -> {
+      y.tick(1);
+      y.undo();
+    });
+    check.unchanged("two changes taken back", refusedForAPart, y -> {
+      y.give(1, 5, 9, 0, -1, -1);
+      y.tick(3);
+      y.undo();
+      y.undo();
+    });
   }
 
-  private static void savedStays() {
-    RobotCell x = busyCell();
-    x.save();
+  @Says(at = "Promise 26: undo", text = "Returns the number of changes that can still be taken back.")
+  static void changesLeft(Check check) {
+    RobotCell x = new RobotCell();
+    x.setReach(0, 1);
+    check.same("one", x.undo(), 0);
+    sixChanges(x);
+    check.same("six", x.undo(), 5);
+    check.same("five", x.undo(), 4);
+    x.supply(0);
+    check.same("five again", x.undo(), 4);
+    check.same("four", x.undo(), 3);
+    check.same("three", x.undo(), 2);
+    check.same("two", x.undo(), 1);
+    check.same("the last one", x.undo(), 0);
+  }
+
+  @Says(at = "Promise 26: undo", text = "Throws `IllegalStateException` if there is none")
+  static void nothingToTakeBack(Check check) {
+    check.refusedUnsaved("a new object", STATE, UndoTest::nothing, x -> x.undo());
+    check.refused("all are taken back", STATE, UndoTest::undoAll, x -> x.undo());
+    check.refusedUnsaved("no changes", STATE, x -> {
+      x.feed('t');
+      x.perform();
+      x.save();
+    }, x -> x.undo());
+    check.refused("restored", STATE, x -> {
+      busyCell(x);
+      x.restore();
+    }, x -> x.undo());
+  }
+
+  // ---- promises 27 and 28: save and restore
+
+  @Says(at = "Promise 27: save",
+      text = "Saves everything but the input buffer and what can be taken back, in place of what was saved before.")
+  static void savedCell(Check check) {
+    RobotCell x = new RobotCell();
+    busyCell(x);
     String first = View.of(x);
+    x.feed('t');
+    x.save();
+    check.sameText("save changes nothing", View.of(x), first);
     x.supply(0);
     x.give(1, 4, 1, 0, -1, -1);
     x.tick(13);
+    x.setInterlock(3, 4, true);
+    x.feed('3');
     x.restore();
-    CHECK.sameText("once", View.of(x), first);
-    x.tick(5);
-    CHECK.same("again", x.restore(), 7);
-    CHECK.sameText("twice", View.of(x), first);
-    x.tick(5);
-    CHECK.same("saved anew", x.save(), 12);
+    check.sameText("everything is as it was saved", View.of(x), first);
+    check.same("the input buffer stays as it is", x.perform(), 1);
+    check.same("its ticks", x.account(0), 10);
     String second = View.of(x);
-    x.tick(5);
-    CHECK.same("restored anew", x.restore(), 12);
-    CHECK.sameText("thrice", View.of(x), second);
-    x.tick(1);
     x.save();
+    x.tick(1);
+    x.restore();
+    check.sameText("in place of what was saved before", View.of(x), second);
+    RobotCell y = new RobotCell();
+    sixChanges(y);
+    y.save();
+    check.same("what can be taken back stays", y.undo(), 5);
+    check.same("what can be taken back stays, too", y.undo(), 4);
+    y.restore();
+    check.same("undo leaves what was saved", y.arm(0, 0), 6);
+  }
+
+  @Says(at = "Promise 27: save", text = "Returns the time.")
+  static void timeOfSave(Check check) {
+    RobotCell x = new RobotCell();
+    check.same("at first", x.save(), 0);
+    x.tick(7);
+    check.same("time 7", x.save(), 7);
     x.undo();
-    CHECK.same("undo leaves what was saved", x.restore(), 13);
+    check.same("time 0 again", x.save(), 0);
+  }
+
+  @Says(at = "Promise 28: restore",
+      text = "Restores what was saved, which stays saved. No change can be taken back afterwards.")
+  static void restoredCell(Check check) {
+    RobotCell x = new RobotCell();
+    busyCell(x);
+    String first = View.of(x);
+    x.save();
+    for (int i = 0; i < 3; i++) {
+      x.tick(10 + i);
+      x.supply(1);
+      x.setReach(2, i);
+      x.restore();
+      check.sameText("restored, " + i, View.of(x), first);
+    }
+    check.refused("no change behind restore", STATE, y -> {
+      busyCell(y);
+      y.save();
+      y.tick(1);
+      y.restore();
+    }, y -> y.undo());
+    x.tick(1);
+    check.same("a change behind restore", x.undo(), 0);
+    check.sameText("is taken back", View.of(x), first);
+    RobotCell z = new RobotCell();
+    z.save();
+    busyCell(z);
+    z.restore();
+    check.sameText("a new object that was saved", View.of(z), View.of(new RobotCell()));
+    check.same("gives the first number to a job", z.give(0, 12, 1, 0, -1, -1), 0);
+    check.same("and to a part", z.supply(0), 0);
+  }
+
+  @Says(at = "Promise 28: restore", text = "Returns the time.")
+  static void timeOfRestore(Check check) {
+    RobotCell x = new RobotCell();
+    x.tick(7);
+    x.save();
+    x.tick(50);
+    check.same("time", x.restore(), 7);
+  }
+
+  @Says(at = "Promise 28: restore", text = "Throws `IllegalStateException` if nothing was saved")
+  static void nothingWasSaved(Check check) {
+    check.refusedUnsaved("a new object", STATE, UndoTest::nothing, x -> x.restore());
+    check.refusedUnsaved("a busy one", STATE, UndoTest::busyCell, x -> x.restore());
   }
 }

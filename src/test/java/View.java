@@ -1,6 +1,4 @@
-import java.util.NoSuchElementException;
-
-/** All that an object answers without changing, as one text; the input buffer cannot be seen. */
+/** What an object answers, as one text. */
 final class View {
   /** An answer that may be an exception. */
   private interface Answer {
@@ -9,6 +7,7 @@ final class View {
 
   private View() {}
 
+  /** All that can be asked without a change. */
   static String of(RobotCell x) {
     StringBuilder text = new StringBuilder();
     for (int i = 0; i < 8; i++) {
@@ -54,6 +53,18 @@ final class View {
     return text.toString();
   }
 
+  /** All that an object holds: what can be taken back, what is saved and the letters, too. The object is used up. */
+  static String whole(RobotCell x) {
+    StringBuilder text = new StringBuilder(of(x));
+    for (int i = 0; i < 8; i++) {
+      text.append("\n\nundo answers ").append(answer(() -> x.undo())).append(of(x));
+    }
+    text.append("\n\nrestore answers ").append(answer(() -> x.restore())).append(of(x));
+    text.append("\n\nfeed answers ").append(answer(() -> x.feed('5')));
+    text.append("\nperform answers ").append(answer(() -> x.perform())).append(of(x));
+    return text.toString();
+  }
+
   private static void addArm(StringBuilder text, RobotCell x, int arm) {
     text.append("\narm ").append(arm).append(':');
     for (int what = 0; what < 10; what++) {
@@ -72,10 +83,8 @@ final class View {
   private static Object answer(Answer asked) {
     try {
       return asked.get();
-    } catch (NoSuchElementException e) {
-      return "none";
-    } catch (ArithmeticException e) {
-      return "no number";
+    } catch (RuntimeException e) {
+      return e.getClass().getSimpleName();
     }
   }
 }
