@@ -36,6 +36,54 @@ public final class CellTest {
     check.same("call 512, the time", x.account(0), 507 * 50);
   }
 
+  @Says(at = "Description",
+      text = "A method that throws an exception or returns an error code leaves the state unchanged, unless its"
+          + " description says otherwise.")
+  static void wrongCallsChangeNothing(Check check) {
+    Calls[] wrong = {
+      x -> x.setInterlock(0, 4, true), x -> x.setReach(0, 256), x -> x.setCapacity(0, 0), x -> x.supply(3),
+      x -> x.zone(8, 0), x -> x.buffer(0, 6), x -> x.part(0, 0), x -> x.give(0, 11, 1, 0, -1, -1), x -> x.withdraw(2),
+      x -> x.job(2, 0), x -> x.arm(0, 10), x -> x.waiting(0, 0), x -> x.tick(51), x -> x.reason(0, false),
+      x -> x.wouldBe(2), x -> x.endsAfter(2), x -> x.entry(24, 0), x -> x.account(10), x -> x.use(3),
+      x -> x.meanDuration(),
+    };
+    check.unchanged("all of them", CellTest::twoArms, x -> {
+      for (int i = 0; i < wrong.length; i++) {
+        boolean isRefused = false;
+        try {
+          wrong[i].on(x);
+        } catch (RuntimeException e) {
+          isRefused = true;
+        }
+        check.same("wrong call " + i + " is refused", isRefused, true);
+      }
+    });
+    check.textWrong("i67;t5;", 7, CellTest::twoArms);
+    check.textRefused("i67;t5;t0", UnsupportedOperationException.class, CellTest::twoArms);
+  }
+
+  @Says(at = "Description", text = "If several exceptions apply, the one named first is thrown.")
+  static void severalExceptions(Check check) {
+    Calls full = x -> {
+      twoArms(x);
+      for (int i = 2; i < 30; i++) {
+        x.give(2, 1, 1, 0, 0, -1);
+      }
+      x.setReach(2, 0);
+    };
+    check.refused("all four of give", INDEX, full, x -> x.give(2, 99, 0, 10, -2, 3));
+    check.refused("the last three of give", ARGUMENT, full, x -> x.give(2, 99, 0, 10, -1, -1));
+    check.refused("the last two of give", UnsupportedOperationException.class, full,
+        x -> x.give(2, 1, 1, 0, -1, -1));
+    check.refused("the last one of give", STATE, full, x -> x.give(0, 1, 1, 0, -1, -1));
+    check.refused("both of zone", INDEX, full, x -> x.zone(-1, -1));
+    check.refused("both of buffer", INDEX, full, x -> x.buffer(-1, -1));
+    check.refused("both of part", INDEX, full, x -> x.part(-1, -1));
+    check.refused("both of job", INDEX, full, x -> x.job(30, -1));
+    check.refused("both of arm", INDEX, full, x -> x.arm(-1, -1));
+    check.refused("both of entry", INDEX, full, x -> x.entry(-1, -1));
+  }
+
   @Says(at = "Description, Zones",
       text = "There are 8 zones, numbered from 0; two zones are neighbors if their numbers differ by 1.")
   static void neighbors(Check check) {
@@ -109,6 +157,18 @@ public final class CellTest {
     x.tick(2);
     check.sameRow("parts of buffer 2", i -> x.part(2, i), 1, 0);
     check.sameRow("parts of buffer 1 then", i -> x.part(1, i), 2, 3, 4);
+  }
+
+  @Says(at = "Description, Buffers", text = "Places of a buffer can be promised, and parts of it can be promised.")
+  static void promises(Check check) {
+    RobotCell x = new RobotCell();
+    x.supply(1);
+    x.give(0, 1, 1, 0, 1, 1);
+    check.sameRow("promises before the start", k -> x.buffer(1, 2 + k), 0, 0);
+    x.tick(1);
+    check.sameRow("promises", k -> x.buffer(1, 2 + k), 1, 1);
+    x.tick(1);
+    check.sameRow("promises behind the end", k -> x.buffer(1, 2 + k), 0, 0);
   }
 
   @Says(at = "Description, Buffers",

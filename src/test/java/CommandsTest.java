@@ -42,7 +42,7 @@ public final class CommandsTest {
 
   // ---- the grammar
 
-  @Says(at = "Description, Commands", text = "`text = command { \";\" command}`")
+  @Says(at = "Description, Commands", text = "`text = command { \";\" command`}")
   static void manyCommands(Check check) {
     right(check, "t1", 1);
     right(check, "t1;t2", 2);
@@ -59,6 +59,62 @@ public final class CommandsTest {
     wrong(check, "i01i01", 3);
     wrong(check, "j0:0/1w0t1", 8);
     wrong(check, "j0:0/1w0<0>0t1", 12);
+  }
+
+  @Says(at = "Description, Commands",
+      text = "`command = \"j\" digit \":\" digit { \",\" digit` \"/\" digit \"w\" digit [ \"<\" digit ] [ \">\" digit ]")
+  static void jobsInTexts(Check check) {
+    for (String zones : new String[] {"0", "0,1", "0,1,2", "0,1,2,3", "0,1,2,3,4"}) {
+      right(check, "j0:" + zones + "/1w0", 1);
+    }
+    right(check, "j0:0/1w0<0", 1);
+    right(check, "j0:0/1w0>0", 1);
+    right(check, "j0:0/1w0<0>0", 1);
+    wrong(check, "j:0/1w0", 1);
+    wrong(check, "j00/1w0", 2);
+    wrong(check, "j00:0/1w0", 2);
+    wrong(check, "j0:/1w0", 3);
+    wrong(check, "j0:,0/1w0", 3);
+    wrong(check, "j0:01/1w0", 4);
+    wrong(check, "j0:0,/1w0", 5);
+    wrong(check, "j0:0,,1/1w0", 5);
+    wrong(check, "j0:0,11/1w0", 6);
+    wrong(check, "j0:0/w0", 5);
+    wrong(check, "j0:0/11w0", 6);
+    wrong(check, "j0:0/1", 6);
+    wrong(check, "j0:0/1w", 7);
+    wrong(check, "j0:0/1w00", 8);
+    wrong(check, "j0:0/1w0<", 9);
+    wrong(check, "j0:0/1w0<00", 10);
+    wrong(check, "j0:0/1w0<0<0", 10);
+    wrong(check, "j0:0/1w0>", 9);
+    wrong(check, "j0:0/1w0>00", 10);
+    wrong(check, "j0:0/1w0>0>0", 10);
+    wrong(check, "j0:0/1w0>0<0", 10);
+    wrong(check, "j0:0/1w0<0>0>0", 12);
+    wrong(check, "j0:0/1w0<0>0<0", 12);
+  }
+
+  @Says(at = "Description, Commands", text = "| \"t\" digit [ digit ]")
+  static void ticksInTexts(Check check) {
+    right(check, "t9", 1);
+    right(check, "t12", 1);
+    wrong(check, "t", 1);
+    wrong(check, "t;", 1);
+    wrong(check, "tt", 1);
+    wrong(check, "t123", 3);
+    wrong(check, "t000", 3);
+  }
+
+  @Says(at = "Description, Commands", text = "| \"i\" digit digit}")
+  static void interlocksInTexts(Check check) {
+    right(check, "i70", 1);
+    wrong(check, "i", 1);
+    wrong(check, "i;", 1);
+    wrong(check, "i0", 2);
+    wrong(check, "i0;", 2);
+    wrong(check, "i012", 3);
+    wrong(check, "i0,1", 2);
   }
 
   @Says(at = "Description, Commands",
@@ -82,32 +138,21 @@ public final class CommandsTest {
 
   @Says(at = "Description, Commands",
       text = "where braces mean zero or more repetitions, and brackets mean zero or one.")
-  static void repetitions(Check check) {
-    for (String zones : new String[] {"0", "0,1", "0,1,2", "0,1,2,3", "0,1,2,3,4"}) {
-      right(check, "j0:" + zones + "/1w0", 1);
+  static void bracesAndBrackets(Check check) {
+    for (int more = 0; more <= 4; more++) {
+      right(check, "j0:0" + ",1,2,3,4".substring(0, 2 * more) + "/1w0", 1);
     }
-    right(check, "j0:0/1w0<0", 1);
-    right(check, "j0:0/1w0>0", 1);
-    right(check, "j0:0/1w0<0>0", 1);
+    for (int more = 0; more <= 26; more++) {
+      right(check, repeated("t1", more, ";t1"), 1 + more);
+    }
+    String[] jobs = {"", "<0", ">0", "<0>0"};
+    for (String buffers : jobs) {
+      right(check, "j0:0/1w0" + buffers, 1);
+      wrong(check, "j0:0/1w0" + buffers + "<0<0", 8 + buffers.length() + (buffers.isEmpty() ? 2 : 0));
+    }
     right(check, "t1", 1);
-    right(check, "t12", 1);
-    wrong(check, "t", 1);
-    wrong(check, "t;", 1);
-    wrong(check, "t123", 3);
-    wrong(check, "j0:0/1w0<0<0", 10);
-    wrong(check, "j0:0/1w0>0>0", 10);
-    wrong(check, "j0:0/1w0>0<0", 10);
-    wrong(check, "j0:0/1w0<0>0>0", 12);
-    wrong(check, "j0:0/1w0<0>0<0", 12);
-    wrong(check, "j0:/1w0", 3);
-    wrong(check, "j0:0,/1w0", 5);
-    wrong(check, "j0:,0/1w0", 3);
-    wrong(check, "j0:01/1w0", 4);
-    wrong(check, "j0:0,,1/1w0", 5);
-    wrong(check, "i0", 2);
-    wrong(check, "i0;", 2);
-    wrong(check, "i", 1);
-    wrong(check, "i012", 3);
+    right(check, "t11", 1);
+    wrong(check, "t111", 3);
   }
 
   @Says(at = "Description, Commands", text = "A text can give at most 5 zones for a job.")
@@ -139,14 +184,12 @@ public final class CommandsTest {
     }
     check.textWrong(whole + "x", whole.length(), CommandsTest::nothing);
     check.textWrong(whole + "8,", whole.length() + 1, CommandsTest::nothing);
-    String[] texts = {"J", " t1", "t 1", "t1 ", "t-1", "t+1", "i0,1", "i 01", "ja", "j:0/1w0", "j00/1w0", "j0;0/1w0",
-        "j0:x", "j0:0w", "j0:0;", "j0:0/w0", "j0:0/x", "j0:0/11w0", "j0:0/1;t1", "j0:0/1wx", "j0:0/1w;t1",
-        "j0:0/1w11", "j0:0/1w1<x", "j0:0/1w1<;t1", "j0:0/1w1<>1", "j0:0/1w1>;t1", "j0:0/1w1>x", "j0:0/1w1<-1",
-        "T1", "I01", "t1;T1", "t1;x", "t1\n", "w0", "0", "/", ":", "j0:0/1W0", "j0:0\\1w0"};
-    int[] due = {0, 0, 1, 2, 1, 1, 2, 1, 1, 1, 2, 2,
-        3, 4, 4, 5, 5, 6, 6, 7, 7,
-        8, 9, 9, 9, 9, 9, 9,
-        0, 0, 3, 3, 2, 0, 0, 0, 0, 6, 4};
+    String[] texts = {"J", " t1", "t 1", "t1 ", "t-1", "t+1", "i 01", "ja", "j0;0/1w0", "j0:0w", "j0:0;",
+        "j0:0/1;t1", "j0:0/1w;t1", "j0:0/1w1<;t1", "j0:0/1w1<>1", "j0:0/1w1>;t1", "j0:0/1w1<-1", "T1", "I01",
+        "t1;T1", "t1\n", "w0", "0", "/", ":", "j0:0/1W0", "j0:0\\1w0"};
+    int[] due = {0, 0, 1, 2, 1, 1, 1, 1, 2, 4, 4,
+        6, 7, 9, 9, 9, 9, 0, 0,
+        3, 2, 0, 0, 0, 0, 6, 4};
     check.same("texts and positions", texts.length, due.length);
     for (int i = 0; i < texts.length; i++) {
       wrong(check, texts[i], due[i]);
@@ -309,9 +352,9 @@ public final class CommandsTest {
   @Says(at = "Promise 25: perform",
       text = "Returns the number of commands; -100 minus the error position after a syntax error.")
   static void numberOfCommands(Check check) {
-    for (int more = 0; more <= 26; more++) {
-      right(check, repeated("t1", more, ";t1"), 1 + more);
-    }
+    right(check, "i01", 1);
+    right(check, "j0:0/1w0;t9;i01;i01", 4);
+    right(check, repeated("t1", 26, ";t1"), 27);
     wrong(check, "", 0);
     wrong(check, "t", 1);
     wrong(check, "t1;", 3);

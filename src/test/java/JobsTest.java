@@ -125,9 +125,45 @@ public final class JobsTest {
       check.same("works", x.arm(0, 1), 1);
     }
     check.same("it ends", x.tick(1), 1);
-    for (int path : new int[] {9, 19, 91, 10, 109, 100, 1090, 12390, 90123}) {
+    for (int path : new int[] {9, 19, 91, 10, 100, 102, 1203, 10234, 12304, 109, 12390, 90123}) {
       check.refused("path " + path, ARGUMENT, JobsTest::nothing, y -> y.give(0, path, 1, 0, -1, -1));
     }
+  }
+
+  @Says(at = "Promise 9: give", text = "`source`: the source, or -1 for none")
+  static void sources(Check check) {
+    RobotCell x = new RobotCell();
+    for (int source = -1; source < 3; source++) {
+      int job = x.give(0, 1, 1, 0, source, -1);
+      check.same("source", x.job(job, 4), source);
+      check.same("start with source " + source, x.wouldBe(0), source < 0 ? 0 : 1);
+      x.withdraw(0);
+    }
+  }
+
+  @Says(at = "Promise 9: give", text = "`target`: the target, or -1 for none")
+  static void targets(Check check) {
+    RobotCell x = new RobotCell();
+    for (int i = 0; i < 6; i++) {
+      x.supply(i % 3);
+    }
+    for (int target = -1; target < 3; target++) {
+      int job = x.give(0, 1, 1, 0, -1, target);
+      check.same("target", x.job(job, 5), target);
+      check.same("start with target " + target, x.wouldBe(0), target < 0 ? 0 : 2);
+      x.withdraw(0);
+    }
+  }
+
+  @Says(at = "Promise 9: give", text = "Returns the job.")
+  static void numbersOfJobs(Check check) {
+    RobotCell x = new RobotCell();
+    check.same("first", x.give(2, 1, 1, 0, -1, -1), 0);
+    check.same("second", x.give(0, 2, 1, 0, -1, -1), 1);
+    x.withdraw(0);
+    x.tick(5);
+    check.same("third", x.give(0, 3, 1, 0, -1, -1), 2);
+    check.sameRow("arms", j -> x.job(j, 0), 2, 0, 0);
   }
 
   @Says(at = "Promise 9: give",

@@ -387,6 +387,19 @@ public final class RequestsTest {
     check.same("withdrawn, and no tick has passed", x.reason(0, false), CONFLICT);
   }
 
+  @Says(at = "Promise 15: reason", text = "`isDetail`: false for the reason, true for the detail")
+  static void reasonOrDetail(Check check) {
+    RobotCell x = new RobotCell();
+    oppositeWays(x);
+    check.same("reason", x.reason(1, false), UNSAFE);
+    check.same("detail", x.reason(1, true), 0);
+    RobotCell y = new RobotCell();
+    y.give(2, 1, 1, 0, 2, -1);
+    y.tick(1);
+    check.same("reason of arm 2", y.reason(2, false), NO_PART);
+    check.same("detail of arm 2", y.reason(2, true), 2);
+  }
+
   @Says(at = "Promise 15: reason", text = "Throws `IndexOutOfBoundsException` if there is no such arm")
   static void reasonOfNoArm(Check check) {
     for (int arm : NO_ARMS) {

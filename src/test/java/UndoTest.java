@@ -204,6 +204,30 @@ public final class UndoTest {
     });
   }
 
+  @Says(at = "Promise 26: undo", text = "Takes back the latest change that was not taken back")
+  static void jobsThatWereTakenBack(Check check) {
+    RobotCell x = new RobotCell();
+    x.give(1, 1, 1, 9, 2, 2);
+    x.undo();
+    x.give(0, 12, 9, 9, -1, -1);
+    x.tick(30);
+    check.sameRow("it ended", what -> x.job(0, what), 0, 12, 9, 9, -1, -1, 2, 1, 22);
+    x.undo();
+    check.sameRow("it is in the row again", what -> x.job(0, what), 0, 12, 9, 9, -1, -1, 0, -1, -1);
+    x.tick(30);
+    x.undo();
+    x.undo();
+    check.same("no job is left", x.account(1), 0);
+    x.give(2, 3, 1, 0, -1, -1);
+    check.sameRow("another job has its number", what -> x.job(0, what), 2, 3, 1, 0, -1, -1, 0, -1, -1);
+    check.same("ends after", x.endsAfter(0), 2);
+    RobotCell y = new RobotCell();
+    Calls.perform(y, "j0:0/1w0;t5");
+    y.undo();
+    y.give(2, 3, 1, 0, -1, -1);
+    check.sameRow("a job that was given and ended by a text", what -> y.job(0, what), 2, 3, 1, 0, -1, -1, 0, -1, -1);
+  }
+
   @Says(at = "Promise 26: undo", text = "Returns the number of changes that can still be taken back.")
   static void changesLeft(Check check) {
     RobotCell x = new RobotCell();
@@ -308,6 +332,7 @@ public final class UndoTest {
     z.restore();
     check.sameText("a new object that was saved", View.of(z), View.of(new RobotCell()));
     check.same("gives the first number to a job", z.give(0, 12, 1, 0, -1, -1), 0);
+    check.sameRow("which is in the row", what -> z.job(0, what), 0, 12, 1, 0, -1, -1, 0, -1, -1);
     check.same("and to a part", z.supply(0), 0);
   }
 
