@@ -47,15 +47,14 @@ public final class CellTest {
       x -> x.wouldBe(2), x -> x.endsAfter(2), x -> x.entry(24, 0), x -> x.account(10), x -> x.use(3),
       x -> x.meanDuration(),
     };
+    for (int i = 0; i < wrong.length; i++) {
+      RobotCell x = new RobotCell();
+      twoArms(x);
+      check.same("wrong call " + i + " throws nothing", Calls.thrown(x, wrong[i]).equals("nothing"), false);
+    }
     check.unchanged("all of them", CellTest::twoArms, x -> {
       for (int i = 0; i < wrong.length; i++) {
-        boolean isRefused = false;
-        try {
-          wrong[i].on(x);
-        } catch (RuntimeException e) {
-          isRefused = true;
-        }
-        check.same("wrong call " + i + " is refused", isRefused, true);
+        Calls.tried(wrong[i]).on(x);
       }
     });
     check.textWrong("i67;t5;", 7, CellTest::twoArms);

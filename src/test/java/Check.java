@@ -2,8 +2,6 @@ import java.util.function.IntUnaryOperator;
 
 /** Compares answers with those that are due, prints what differs and counts it. */
 final class Check {
-  private static final String NOTHING = "nothing";
-
   private String sentence = "";
   private int asked = 0;
   private int wrong = 0;
@@ -52,75 +50,60 @@ final class Check {
 
   /** Demands exactly this exception, none of a class below it, and an object that is as if the call were not made. */
   void refused(String what, Class<? extends RuntimeException> due, Calls before, Calls call) {
-    refused(what, due, prepared(before), prepared(before), call);
+    refusedThen(what, due, prepared(before), call);
   }
 
   /** The same for an object for which nothing was saved. */
   void refusedUnsaved(String what, Class<? extends RuntimeException> due, Calls before, Calls call) {
-    refused(what, due, made(before), made(before), call);
+    refusedThen(what, due, before, call);
   }
 
-  private void refused(String what, Class<? extends RuntimeException> due, RobotCell x, RobotCell twin, Calls call) {
-    String got = thrown(x, call);
+  private void refusedThen(String what, Class<? extends RuntimeException> due, Calls history, Calls call) {
+    String got = Calls.thrown(history.made(), call);
     hold(what + " threw " + got + ", due is " + due.getSimpleName(), got.equals(due.getSimpleName()));
-    sameText(what + ": the object then", View.whole(x), View.whole(twin));
+    sameObjects(what, history.then(Calls.tried(call)), history);
   }
 
-  /** Demands no exception, and an object that is as if the call were not made. */
-  void unchanged(String what, Calls before, Calls call) {
-    RobotCell x = prepared(before);
-    String got = thrown(x, call);
-    hold(what + " threw " + got, got.equals(NOTHING));
-    sameText(what + ": the object then", View.whole(x), View.whole(prepared(before)));
+  /** Demands no exception, and an object that is as if the calls were not made. */
+  void unchanged(String what, Calls before, Calls calls) {
+    Calls history = prepared(before);
+    String got = Calls.thrown(history.made(), calls);
+    hold(what + " threw " + got, got.equals("nothing"));
+    sameObjects(what, history.then(Calls.tried(calls)), history);
   }
 
   /** Demands that a text is refused by this exception, and an object that is as if nothing had been fed. */
   void textRefused(String text, Class<? extends RuntimeException> due, Calls before) {
-    RobotCell x = prepared(before);
-    x.perform();
-    Calls.feed(x, text);
-    String got = thrown(x, y -> y.perform());
+    Calls history = emptied(before);
+    Calls fed = history.then(x -> Calls.feed(x, text));
+    String got = Calls.thrown(fed.made(), x -> x.perform());
     hold(text + " threw " + got + ", due is " + due.getSimpleName(), got.equals(due.getSimpleName()));
-    sameText(text + ": the object then", View.whole(x), View.whole(emptied(before)));
+    sameObjects(text, fed.then(Calls.tried(x -> x.perform())), history);
   }
 
   /** Demands that a text is answered by this error position, and an object that is as if nothing had been fed. */
   void textWrong(String text, int position, Calls before) {
-    RobotCell x = prepared(before);
-    x.perform();
-    same("perform of \"" + text + "\"", Calls.perform(x, text), -100 - position);
-    sameText(text + ": the object then", View.whole(x), View.whole(emptied(before)));
+    Calls history = emptied(before);
+    same("perform of \"" + text + "\"", Calls.perform(history.made(), text), -100 - position);
+    sameObjects(text, history.then(x -> Calls.perform(x, text)), history);
+  }
+
+  /** Compares all that objects with these histories hold. */
+  void sameObjects(String what, Calls got, Calls due) {
+    sameText(what + ": the object then", View.whole(got), View.whole(due));
   }
 
   /** Something can be taken back, something is saved and letters are fed, so that a loss of them would be seen. */
-  private static RobotCell prepared(Calls before) {
-    RobotCell x = new RobotCell();
-    x.setReach(2, 255);
-    x.save();
-    before.on(x);
-    Calls.feed(x, "i4");
-    return x;
+  private static Calls prepared(Calls before) {
+    Calls saved = x -> {
+      x.setReach(2, 255);
+      x.save();
+    };
+    return saved.then(before).then(x -> Calls.feed(x, "i4"));
   }
 
-  private static RobotCell made(Calls before) {
-    RobotCell x = new RobotCell();
-    before.on(x);
-    return x;
-  }
-
-  private static RobotCell emptied(Calls before) {
-    RobotCell x = prepared(before);
-    x.perform();
-    return x;
-  }
-
-  private static String thrown(RobotCell x, Calls call) {
-    try {
-      call.on(x);
-    } catch (RuntimeException e) {
-      return e.getClass().getSimpleName();
-    }
-    return NOTHING;
+  private static Calls emptied(Calls before) {
+    return prepared(before).then(x -> x.perform());
   }
 
   private void hold(String complaint, boolean isRight) {

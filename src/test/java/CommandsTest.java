@@ -301,17 +301,19 @@ public final class CommandsTest {
   @Says(at = "Promise 25: perform",
       text = "Parses the input buffer as a text of commands and carries them out, in their order.")
   static void inTheirOrder(Check check) {
+    String text = "t3;j0:0/1w0;t1;j1:1/1w0;t1";
     RobotCell x = new RobotCell();
-    check.same("a job between ticks", Calls.perform(x, "t3;j0:0/1w0;t1;j1:1/1w0;t1"), 5);
+    check.same("a job between ticks", Calls.perform(x, text), 5);
     check.same("start of the first one", x.job(0, 7), 4);
     check.same("start of the second one", x.job(1, 7), 5);
-    RobotCell y = new RobotCell();
-    y.tick(3);
-    y.give(0, 1, 1, 0, -1, -1);
-    y.tick(1);
-    y.give(1, 2, 1, 0, -1, -1);
-    y.tick(1);
-    check.sameText("the same as by calls", View.of(x), View.of(y));
+    Calls sameByCalls = y -> {
+      y.tick(3);
+      y.give(0, 1, 1, 0, -1, -1);
+      y.tick(1);
+      y.give(1, 2, 1, 0, -1, -1);
+      y.tick(1);
+    };
+    check.sameText("the same as by calls", View.of(y -> Calls.perform(y, text)), View.of(sameByCalls));
     RobotCell z = new RobotCell();
     check.same("jobs of one arm", Calls.perform(z, "j0:4/1w0;j0:3/1w0;j0:5/1w0"), 3);
     check.sameRow("paths in the row", i -> z.job(z.waiting(0, i), 1), 5, 4, 6);

@@ -1,8 +1,9 @@
 /** Long runs of calls, right and wrong ones, each answered by the program and by the model. */
 public final class ModelTest {
-  private static final int RUNS = 150;
-  private static final int CALLS = 512;
+  private static final int RUNS = 600;
+  private static final int CALLS = 512; // the document says nothing of later ones
   private static final int METHODS = 27;
+  private static int calls = 0;
   private static int wrong = 0;
 
   /** A call on one of the two. */
@@ -37,7 +38,8 @@ public final class ModelTest {
       RobotCell x = new RobotCell();
       Model m = new Model();
       int busy = run % 5;
-      for (int call = 0; call < CALLS && wrong == 0; call++) {
+      calls = 0;
+      while (calls < CALLS && wrong == 0) {
         if (busy > 0 && n.below(3) > 0) {
           change(run, n, x, m);
         } else {
@@ -267,6 +269,10 @@ public final class ModelTest {
   }
 
   private static void same(int run, String what, Answer program, Answer model) {
+    if (calls == CALLS) {
+      return;
+    }
+    calls++;
     String got = textOf(program);
     String due = textOf(model);
     if (!got.equals(due)) {

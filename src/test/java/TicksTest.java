@@ -375,19 +375,18 @@ public final class TicksTest {
       x.tick(ticks);
       check.same("time", x.account(0), ticks);
     }
-    RobotCell x = new RobotCell();
-    x.give(0, 12345, 9, 9, -1, -1);
-    x.give(1, 54321, 2, 3, -1, -1);
-    x.give(2, 13531, 1, 0, -1, 0);
-    RobotCell y = new RobotCell();
-    y.give(0, 12345, 9, 9, -1, -1);
-    y.give(1, 54321, 2, 3, -1, -1);
-    y.give(2, 13531, 1, 0, -1, 0);
-    x.tick(50);
-    for (int i = 0; i < 50; i++) {
-      y.tick(1);
-    }
-    check.sameText("fifty ticks at once or one by one", View.of(x), View.of(y));
+    Calls jobs = x -> {
+      x.give(0, 12345, 9, 9, -1, -1);
+      x.give(1, 54321, 2, 3, -1, -1);
+      x.give(2, 13531, 1, 0, -1, 0);
+    };
+    Calls oneByOne = x -> {
+      for (int i = 0; i < 50; i++) {
+        x.tick(1);
+      }
+    };
+    check.sameText("fifty ticks at once or one by one", View.of(jobs.then(x -> x.tick(50))),
+        View.of(jobs.then(oneByOne)));
   }
 
   @Says(at = "Promise 14: tick", text = "Returns the number of jobs that ended in them.")

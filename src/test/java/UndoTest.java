@@ -63,14 +63,11 @@ public final class UndoTest {
         x.undo();
       });
     }
+    Calls busy = UndoTest::busyCell;
     for (String text : new String[] {"i67;j0:0/1w0;t9", "i67;i67", "t1"}) {
-      RobotCell x = new RobotCell();
-      busyCell(x);
-      Calls.perform(x, text);
-      check.same("changes behind a text", x.undo(), 4);
-      RobotCell y = new RobotCell();
-      busyCell(y);
-      check.sameText("a text and undo", View.whole(x), View.whole(y));
+      Calls performed = busy.then(x -> Calls.perform(x, text));
+      check.same("changes behind a text", performed.made().undo(), 4);
+      check.sameObjects("a text and undo", performed.then(x -> x.undo()), busy);
     }
     RobotCell z = new RobotCell();
     z.tick(1);
@@ -165,18 +162,17 @@ public final class UndoTest {
     check.same("time", x.account(0), 12);
     x.undo();
     check.same("a text that was carried out does not come back", x.feed('t'), 1);
-    RobotCell y = new RobotCell();
-    busyCell(y);
+    Calls[] changes = {y -> y.tick(3), y -> y.supply(1), y -> y.tick(9), y -> y.setInterlock(1, 3, true),
+        y -> y.give(2, 81, 9, 9, 1, 1), y -> y.tick(50)};
     String[] before = new String[6];
-    Calls[] changes = {z -> z.tick(3), z -> z.supply(1), z -> z.tick(9), z -> z.setInterlock(1, 3, true),
-        z -> z.give(2, 81, 9, 9, 1, 1), z -> z.tick(50)};
+    Calls history = UndoTest::busyCell;
     for (int i = 0; i < 6; i++) {
-      before[i] = View.of(y);
-      changes[i].on(y);
+      before[i] = View.of(history);
+      history = history.then(changes[i]);
     }
     for (int i = 5; i >= 0; i--) {
-      y.undo();
-      check.sameText("before change " + i, View.of(y), before[i]);
+      history = history.then(y -> y.undo());
+      check.sameText("before change " + i, View.of(history), before[i]);
     }
   }
 
@@ -264,26 +260,32 @@ public final class UndoTest {
   @Says(at = "Promise 27: save",
       text = "Saves everything but the input buffer and what can be taken back, in place of what was saved before.")
   static void savedCell(Check check) {
-    RobotCell x = new RobotCell();
-    busyCell(x);
-    String first = View.of(x);
-    x.feed('t');
-    x.save();
-    check.sameText("save changes nothing", View.of(x), first);
-    x.supply(0);
-    x.give(1, 4, 1, 0, -1, -1);
-    x.tick(13);
-    x.setInterlock(3, 4, true);
-    x.feed('3');
-    x.restore();
-    check.sameText("everything is as it was saved", View.of(x), first);
-    check.same("the input buffer stays as it is", x.perform(), 1);
-    check.same("its ticks", x.account(0), 10);
-    String second = View.of(x);
-    x.save();
-    x.tick(1);
-    x.restore();
-    check.sameText("in place of what was saved before", View.of(x), second);
+    Calls busy = UndoTest::busyCell;
+    String first = View.of(busy);
+    Calls saved = busy.then(x -> {
+      x.feed('t');
+      x.save();
+    });
+    check.sameText("save changes nothing", View.of(saved), first);
+    Calls restored = saved.then(x -> {
+      x.supply(0);
+      x.give(1, 4, 1, 0, -1, -1);
+      x.tick(13);
+      x.setInterlock(3, 4, true);
+      x.feed('3');
+      x.restore();
+    });
+    check.sameText("everything is as it was saved", View.of(restored), first);
+    RobotCell z = restored.made();
+    check.same("the input buffer stays as it is", z.perform(), 1);
+    check.same("its ticks", z.account(0), 10);
+    Calls performed = restored.then(x -> x.perform());
+    Calls savedAgain = performed.then(x -> {
+      x.save();
+      x.tick(1);
+      x.restore();
+    });
+    check.sameText("in place of what was saved before", View.of(savedAgain), View.of(performed));
     RobotCell y = new RobotCell();
     sixChanges(y);
     y.save();
@@ -306,31 +308,35 @@ public final class UndoTest {
   @Says(at = "Promise 28: restore",
       text = "Restores what was saved, which stays saved. No change can be taken back afterwards.")
   static void restoredCell(Check check) {
-    RobotCell x = new RobotCell();
-    busyCell(x);
-    String first = View.of(x);
-    x.save();
+    Calls busy = UndoTest::busyCell;
+    String first = View.of(busy);
+    Calls restored = busy.then(x -> x.save());
     for (int i = 0; i < 3; i++) {
-      x.tick(10 + i);
-      x.supply(1);
-      x.setReach(2, i);
-      x.restore();
-      check.sameText("restored, " + i, View.of(x), first);
+      int zones = i;
+      restored = restored.then(x -> {
+        x.tick(10 + zones);
+        x.supply(1);
+        x.setReach(2, zones);
+        x.restore();
+      });
+      check.sameText("restored, " + i, View.of(restored), first);
     }
-    check.refused("no change behind restore", STATE, y -> {
-      busyCell(y);
-      y.save();
-      y.tick(1);
-      y.restore();
-    }, y -> y.undo());
-    x.tick(1);
-    check.same("a change behind restore", x.undo(), 0);
-    check.sameText("is taken back", View.of(x), first);
-    RobotCell z = new RobotCell();
-    z.save();
-    busyCell(z);
-    z.restore();
-    check.sameText("a new object that was saved", View.of(z), View.of(new RobotCell()));
+    check.refused("no change behind restore", STATE, x -> {
+      busyCell(x);
+      x.save();
+      x.tick(1);
+      x.restore();
+    }, x -> x.undo());
+    Calls changed = restored.then(x -> x.tick(1));
+    check.same("a change behind restore", changed.made().undo(), 0);
+    check.sameText("is taken back", View.of(changed.then(x -> x.undo())), first);
+    Calls restoredNew = x -> {
+      x.save();
+      busyCell(x);
+      x.restore();
+    };
+    check.sameText("a new object that was saved", View.of(restoredNew), View.of(UndoTest::nothing));
+    RobotCell z = restoredNew.made();
     check.same("gives the first number to a job", z.give(0, 12, 1, 0, -1, -1), 0);
     check.sameRow("which is in the row", what -> z.job(0, what), 0, 12, 1, 0, -1, -1, 0, -1, -1);
     check.same("and to a part", z.supply(0), 0);
