@@ -262,6 +262,16 @@ public final class RequestsTest {
     }
     z.give(1, 61, 1, 0, -1, -1);
     check.same("others do not", z.wouldBe(1), GRANTED);
+    RobotCell w = new RobotCell();
+    w.give(0, 123, 3, 0, -1, -1);
+    w.tick(5);
+    check.same("arm 0 works in 1 and has just left 0", w.arm(0, 7), 2);
+    w.give(1, 12, 1, 0, -1, -1);
+    check.same("arm 1 may follow it", w.wouldBe(1), GRANTED);
+    w.tick(1);
+    check.same("arm 1 holds what arm 0 has left", w.zone(0, 0), 1);
+    check.same("both finish", w.isSafe(), true);
+    check.same("arm 0 goes on", w.wouldBe(0), GRANTED);
   }
 
   @Says(at = "Description, Safety", text = "conflicts with a zone that another arm that has not finished yet holds")
