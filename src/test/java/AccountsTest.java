@@ -45,6 +45,21 @@ public final class AccountsTest {
     x.supply(2);
     x.setInterlock(6, 1, false);
     check.sameRow("with a part more and an interlock less", x::account, 26, 5, 4, 1, 5, 4, 1, 8, 12, 2);
+    x.give(2, 4, 1, 0, -1, -1);
+    x.give(1, 4, 1, 0, -1, -1);
+    x.withdraw(2);
+    x.withdraw(1);
+    int[] due = {26, 7, 4, 3, 5, 4, 1, 8, 12, 2};
+    check.sameRow("with jobs that were withdrawn", x::account, due);
+    x.save();
+    x.tick(1);
+    x.undo();
+    check.sameRow("behind undo", x::account, due);
+    x.tick(1);
+    x.restore();
+    check.sameRow("behind restore", x::account, due);
+    Calls.perform(x, "t1");
+    check.sameRow("behind a text", x::account, 27, 7, 4, 3, 5, 4, 1, 8, 12, 2);
   }
 
   @Says(at = "Promise 21: account", text = "7 the entries of the log that are kept")
